@@ -6,10 +6,13 @@ public final class ModelTest {
         -1, 0, 1, 2, 3, 7, 8, 15, 16, 31, 32, 33, 64, Integer.MIN_VALUE, Integer.MAX_VALUE, 1 << 16, -32, 1 << 30};
 
     private static long seed;
+    /** Whether a FOLD is at the first or the last LINE mostly, so that there may come to be 8, and a LINE be left. */
+    private static boolean isThin;
 
     public static void main(String[] args) {
         for (int run = 0; run < RUNS; run++) {
             seed = 7919L * run + 1;
+            isThin = run % 3 == 0;
             oneRun(run);
         }
         Check.end("ModelTest");
@@ -66,7 +69,7 @@ public final class ModelTest {
     private static void foldOne(int run, Creasebook b, Model m) {
         int axis = next(15) == 0 ? number(4) : m.many(3) == 1 || (next(2) == 0 && m.many(2) > 1) ? 0 : 1;
         int lines = axis == 0 ? m.many(2) : m.many(3);
-        int line = next(15) == 0 ? number(lines + 1) : 1 + next(Math.max(1, lines - 1));
+        int line = next(15) == 0 ? number(lines + 1) : someLine(lines);
         boolean far = next(2) == 0;
         boolean over = next(2) == 0;
         String words = "(" + axis + ", " + line + ", " + far + ", " + over;
@@ -76,6 +79,14 @@ public final class ModelTest {
                     () -> b.would(axis, line, far, over, asked), () -> m.would(axis, line, far, over, asked));
         }
         same(run, "fold" + words + ")", () -> b.fold(axis, line, far, over), () -> m.fold(axis, line, far, over));
+    }
+
+    private static int someLine(int lines) {
+        int most = Math.max(1, lines - 1);
+        if (isThin) {
+            return next(2) == 0 ? 1 : most;
+        }
+        return 1 + next(most);
     }
 
     private static void change(int kind, int run, Creasebook b, Model m) {

@@ -44,36 +44,8 @@ public final class PromiseTest {
         Check.end("PromiseTest");
     }
 
-    private static Creasebook sheet(int wide, int high) {
-        Creasebook book = new Creasebook();
-        book.sheet(wide, high);
-        return book;
-    }
-
-    /** A PILE from its lowest LAYER on, as "2 0'": a CELL with its FRONT down has a stroke. */
-    private static String pile(Creasebook book, int x, int y) {
-        StringBuilder text = new StringBuilder();
-        for (int layer = 0; layer < book.ofPlace(x, y, 0); layer++) {
-            int cell = book.at(x, y, layer);
-            text.append(layer == 0 ? "" : " ").append(cell).append(book.ofCell(cell, 3) == 1 ? "" : "'");
-        }
-        return text.toString();
-    }
-
-    /** All PILES, row by row, rows with a slash between. */
-    private static String lies(Creasebook book) {
-        StringBuilder text = new StringBuilder();
-        for (int y = 0; y < book.many(3); y++) {
-            text.append(y == 0 ? "" : " / ");
-            for (int x = 0; x < book.many(2); x++) {
-                text.append(x == 0 ? "" : ", ").append(pile(book, x, y));
-            }
-        }
-        return text.toString();
-    }
-
     private static void lie(String when, Creasebook book, String due) {
-        Check.same("how it lies " + when, lies(book), due);
+        Check.same("how it lies " + when, Sheets.lies(book), due);
     }
 
     private static void many(Creasebook book, int... due) {
@@ -110,7 +82,7 @@ public final class PromiseTest {
     }
 
     private static void promise2ForgetsAll() {
-        Creasebook book = sheet(4, 4);
+        Creasebook book = Sheets.sheet(4, 4);
         book.ink(0, 0);
         book.dry();
         book.ink(1, 1);
@@ -121,14 +93,14 @@ public final class PromiseTest {
         Check.same("unfold() of what is glued", book.unfold(), NONE);
         Check.isTrue("a BLOT is there to be forgotten", book.many(14) > 0);
         book.sheet(2, 2);
-        Check.same("digest() of a SHEET told anew", book.digest(), sheet(2, 2).digest());
+        Check.same("digest() of a SHEET told anew", book.digest(), Sheets.sheet(2, 2).digest());
         book.fold(0, 1, NEAR, OVER);
         Check.same("unfold() of a SHEET told anew", book.unfold(), 0);
         Check.same("unfold() without a FOLD", book.unfold(), NONE);
     }
 
     private static void promise3FoldOfColumns() {
-        Creasebook book = sheet(4, 1);
+        Creasebook book = Sheets.sheet(4, 1);
         Check.same("fold", book.fold(0, 1, NEAR, OVER), 1);
         lie("behind a NEAR FOLD over", book, "1 0', 2, 3");
         Check.same("fold", book.fold(0, 2, FAR, UNDER), 1);
@@ -143,7 +115,7 @@ public final class PromiseTest {
     }
 
     private static void promise3FoldOfRows() {
-        Creasebook book = sheet(2, 4);
+        Creasebook book = Sheets.sheet(2, 4);
         Check.same("fold", book.fold(1, 1, NEAR, OVER), 2);
         lie("behind a NEAR FOLD over", book, "2 0', 3 1' / 4, 5 / 6, 7");
         Check.same("fold", book.fold(1, 2, FAR, UNDER), 2);
@@ -153,7 +125,7 @@ public final class PromiseTest {
     }
 
     private static void promise3FoldPastTheEdge() {
-        Creasebook book = sheet(4, 1);
+        Creasebook book = Sheets.sheet(4, 1);
         book.fold(0, 1, FAR, OVER);
         lie("as the FAR part is the longer one", book, "3', 2', 0 1'");
         book.sheet(4, 1);
@@ -171,16 +143,16 @@ public final class PromiseTest {
         boolean[] both = {false, true};
         for (boolean isFar : both) {
             for (boolean isOver : both) {
-                Creasebook up = sheet(2, 1);
+                Creasebook up = Sheets.sheet(2, 1);
                 up.fold(0, 1, isFar, isOver);
                 Check.same("CREASE as FRONT is up", up.ofPair(0, false, 0), isOver ? 1 : 2);
-                Creasebook down = sheet(1, 2);
+                Creasebook down = Sheets.sheet(1, 2);
                 down.turn();
                 down.fold(1, 1, isFar, isOver);
                 Check.same("CREASE as FRONT is down", down.ofPair(0, true, 0), isOver ? 2 : 1);
             }
         }
-        Creasebook book = sheet(4, 1);
+        Creasebook book = Sheets.sheet(4, 1);
         book.fold(0, 2, NEAR, OVER);
         lie("behind the first FOLD", book, "2 1', 3 0'");
         Check.same("fold", book.fold(0, 1, FAR, OVER), 2);
@@ -191,7 +163,7 @@ public final class PromiseTest {
     }
 
     private static void promise3Blots() {
-        Creasebook book = sheet(3, 1);
+        Creasebook book = Sheets.sheet(3, 1);
         book.ink(0, 0);
         book.fold(0, 1, NEAR, OVER);
         Check.same("FRONT of 1 touches FRONT of 0", book.ofCell(1, 5), 2);
@@ -229,15 +201,16 @@ public final class PromiseTest {
     }
 
     private static void promise3Refuses() {
-        Creasebook book = sheet(3, 2);
-        int[][] wrong = {{0, 0}, {0, 3}, {1, 0}, {1, 2}, {2, 1}, {-1, 1}, {0, -1}, {0, LOW}, {0, TOP}, {TOP, 1}, {LOW, 0}};
+        Creasebook book = Sheets.sheet(3, 2);
+        int[][] wrong = {{0, 0}, {0, 3}, {1, 0}, {1, 2}, {2, 1}, {-1, 1}, {0, -1}, {0, LOW}, {0, TOP}, {TOP, 1},
+            {LOW, 0}};
         for (int[] way : wrong) {
             Check.refuses("fold(" + way[0] + ", " + way[1] + ")", book, WRONG,
                     () -> book.fold(way[0], way[1], NEAR, OVER));
         }
         book.fold(0, 2, FAR, OVER);
         Check.refuses("fold at a LINE that was", book, WRONG, () -> book.fold(0, 2, FAR, OVER));
-        Creasebook all = eightFolds();
+        Creasebook all = Sheets.eightFolds();
         Check.refuses("a ninth FOLD", all, STATE, () -> all.fold(1, 1, NEAR, OVER));
         Check.refuses("a ninth FOLD without a LINE", all, WRONG, () -> all.fold(0, 1, NEAR, OVER));
         Check.refuses("a ninth FOLD without an AXIS", all, WRONG, () -> all.fold(2, 1, NEAR, OVER));
@@ -245,22 +218,12 @@ public final class PromiseTest {
         Check.same("an eighth FOLD again", all.fold(1, 2, FAR, UNDER), 8);
     }
 
-    /** One PLACE above another one, of a SHEET of 8 by 3. */
-    private static Creasebook eightFolds() {
-        Creasebook book = sheet(8, 3);
-        for (int i = 0; i < 7; i++) {
-            book.fold(0, 1, NEAR, OVER);
-        }
-        Check.same("an eighth FOLD", book.fold(1, 1, NEAR, OVER), 8);
-        return book;
-    }
-
     private static void promise4Unfold() {
-        Creasebook book = sheet(4, 2);
+        Creasebook book = Sheets.sheet(4, 2);
         Check.same("unfold() without a FOLD", book.unfold(), NONE);
         Check.same("such ones", book.many(15), 1);
         book.fold(0, 1, NEAR, OVER);
-        String first = lies(book);
+        String first = Sheets.lies(book);
         book.fold(1, 1, FAR, OVER);
         book.ink(0, 0);
         book.punch(0, 0);
@@ -285,7 +248,7 @@ public final class PromiseTest {
     }
 
     private static void promise4Glue() {
-        Creasebook book = sheet(4, 1);
+        Creasebook book = Sheets.sheet(4, 1);
         book.fold(0, 2, NEAR, OVER);
         book.glue(0, 0);
         Check.same("unfold() of parts that are glued", book.unfold(), NONE);
@@ -303,7 +266,7 @@ public final class PromiseTest {
     }
 
     private static void promise5Turn() {
-        Creasebook book = sheet(3, 1);
+        Creasebook book = Sheets.sheet(3, 1);
         Check.same("turn()", book.turn(), 0);
         lie("turned", book, "2', 1', 0'");
         Check.same("turn()", book.turn(), 3);
@@ -318,7 +281,7 @@ public final class PromiseTest {
     }
 
     private static void promise6Round() {
-        Creasebook book = sheet(3, 2);
+        Creasebook book = Sheets.sheet(3, 2);
         Check.same("round()", book.round(), 5);
         lie("round", book, "5, 4, 3 / 2, 1, 0");
         Check.same("round()", book.round(), 0);
@@ -347,7 +310,7 @@ public final class PromiseTest {
     }
 
     private static void promise7Ink() {
-        Creasebook book = sheet(3, 1);
+        Creasebook book = Sheets.sheet(3, 1);
         Check.same("ink(0, 0)", book.ink(0, 0), true);
         Check.same("ink(0, 0) again", book.ink(0, 0), false);
         Check.same("its FRONT", book.ofCell(0, 5), 2);
@@ -363,7 +326,7 @@ public final class PromiseTest {
     }
 
     private static void promise8Dry() {
-        Creasebook book = sheet(2, 2);
+        Creasebook book = Sheets.sheet(2, 2);
         Check.same("dry() of nothing", book.dry(), 0);
         book.ink(0, 0);
         book.ink(1, 1);
@@ -380,7 +343,7 @@ public final class PromiseTest {
     }
 
     private static void promise9Punch() {
-        Creasebook book = sheet(3, 1);
+        Creasebook book = Sheets.sheet(3, 1);
         Check.same("punch(2, 0)", book.punch(2, 0), 1);
         book.fold(0, 2, FAR, UNDER);
         Check.same("punch(1, 0)", book.punch(1, 0), 2);
@@ -392,7 +355,7 @@ public final class PromiseTest {
     }
 
     private static void promise10Glue() {
-        Creasebook book = sheet(4, 1);
+        Creasebook book = Sheets.sheet(4, 1);
         Check.same("glue of one CELL", book.glue(0, 0), 0);
         book.fold(0, 2, NEAR, OVER);
         Check.same("glue of two", book.glue(1, 0), 1);
@@ -408,7 +371,7 @@ public final class PromiseTest {
     }
 
     private static void promise11OfPlace() {
-        Creasebook book = sheet(3, 2);
+        Creasebook book = Sheets.sheet(3, 2);
         book.punch(0, 0);
         book.punch(0, 0);
         book.fold(0, 1, NEAR, OVER);
@@ -431,7 +394,7 @@ public final class PromiseTest {
     }
 
     private static void promise12At() {
-        Creasebook book = sheet(3, 1);
+        Creasebook book = Sheets.sheet(3, 1);
         book.fold(0, 1, NEAR, OVER);
         Check.same("at(0, 0, 0)", book.at(0, 0, 0), 1);
         Check.same("at(0, 0, 1)", book.at(0, 0, 1), 0);
@@ -443,7 +406,7 @@ public final class PromiseTest {
     }
 
     private static void promise13OfCell() {
-        Creasebook book = sheet(3, 2);
+        Creasebook book = Sheets.sheet(3, 2);
         book.fold(0, 1, FAR, OVER);
         lie("folded", book, "2', 0 1' / 5', 3 4'");
         book.ink(1, 1);
@@ -470,7 +433,7 @@ public final class PromiseTest {
     }
 
     private static void promise14OfPair() {
-        Creasebook book = sheet(2, 2);
+        Creasebook book = Sheets.sheet(2, 2);
         book.fold(0, 1, NEAR, OVER);
         Check.same("ofPair(0, false, 0)", book.ofPair(0, false, 0), 1);
         Check.same("ofPair(2, false, 1)", book.ofPair(2, false, 1), 1);
@@ -484,7 +447,7 @@ public final class PromiseTest {
         Check.same("ofPair(1, true, 1)", book.ofPair(1, true, 1), 1);
         Check.same("right of the last column", book.ofPair(1, false, 0), NONE);
         Check.same("below the last row", book.ofPair(2, true, 1), NONE);
-        Check.same("of one column", sheet(1, 3).ofPair(0, false, 0), NONE);
+        Check.same("of one column", Sheets.sheet(1, 3).ofPair(0, false, 0), NONE);
         Check.refuses("ofPair(1, false, 2)", book, WRONG, () -> book.ofPair(1, false, 2));
         Check.refuses("ofPair(0, false, -1)", book, WRONG, () -> book.ofPair(0, false, -1));
         for (int cell : new int[] {-1, 4, LOW, TOP}) {
@@ -494,7 +457,7 @@ public final class PromiseTest {
     }
 
     private static void promise15OfCorner() {
-        Creasebook book = sheet(3, 3);
+        Creasebook book = Sheets.sheet(3, 3);
         book.fold(0, 1, NEAR, OVER);
         Check.same("CREASES, both above and below", book.ofCorner(1, 1, 0), 2);
         Check.same("BALANCE of two VALLEYS", book.ofCorner(1, 1, 1), -2);
@@ -511,7 +474,7 @@ public final class PromiseTest {
         book.sheet(2, 2);
         book.fold(0, 1, NEAR, UNDER);
         Check.same("BALANCE of two MOUNTAINS", book.ofCorner(1, 1, 1), 2);
-        Creasebook wider = sheet(3, 2);
+        Creasebook wider = Sheets.sheet(3, 2);
         int[][] wrong = {{0, 1}, {1, 0}, {3, 1}, {1, 2}, {-1, 1}, {LOW, 1}, {1, TOP}};
         for (int[] corner : wrong) {
             String words = "ofCorner(" + corner[0] + ", " + corner[1] + ")";
@@ -524,7 +487,7 @@ public final class PromiseTest {
     }
 
     private static void promise16Many() {
-        Creasebook book = sheet(4, 2);
+        Creasebook book = Sheets.sheet(4, 2);
         book.unfold();
         book.unfold();
         book.ink(0, 0);
@@ -546,7 +509,7 @@ public final class PromiseTest {
     }
 
     private static void promise17Weight() {
-        Creasebook book = sheet(4, 3);
+        Creasebook book = Sheets.sheet(4, 3);
         Check.same("weight(0)", book.weight(0), 1.5);
         Check.same("weight(1)", book.weight(1), 1.0);
         book.sheet(3, 1);
@@ -578,7 +541,7 @@ public final class PromiseTest {
     }
 
     private static void promise18Would() {
-        Creasebook book = sheet(4, 2);
+        Creasebook book = Sheets.sheet(4, 2);
         book.ink(0, 0);
         book.ink(3, 1);
         would(book, 0, 1, NEAR, OVER, 2, 6, 4, 1);
@@ -595,16 +558,16 @@ public final class PromiseTest {
         }
         Check.refuses("would of 4", book, WRONG, () -> book.would(0, 1, NEAR, OVER, 4));
         Check.refuses("would of -1", book, WRONG, () -> book.would(0, 1, NEAR, OVER, -1));
-        Check.same("a ninth one", eightFolds().would(1, 1, NEAR, OVER, 0), 24);
+        Check.same("a ninth one", Sheets.eightFolds().would(1, 1, NEAR, OVER, 0), 24);
     }
 
     private static void promise19BestFold() {
         Check.same("without a LINE", new Creasebook().bestFold(), NONE);
-        Check.same("4 by 1: the middle, under, NEAR", sheet(4, 1).bestFold(), 16);
-        Check.same("1 by 4: the middle, under, NEAR", sheet(1, 4).bestFold(), 20);
-        Check.same("2 by 2: the first AXIS", sheet(2, 2).bestFold(), 8);
-        Check.same("3 by 1: more FRONTS as the less goes", sheet(3, 1).bestFold(), 8);
-        Creasebook book = sheet(2, 1);
+        Check.same("4 by 1: the middle, under, NEAR", Sheets.sheet(4, 1).bestFold(), 16);
+        Check.same("1 by 4: the middle, under, NEAR", Sheets.sheet(1, 4).bestFold(), 20);
+        Check.same("2 by 2: the first AXIS", Sheets.sheet(2, 2).bestFold(), 8);
+        Check.same("3 by 1: more FRONTS as the less goes", Sheets.sheet(3, 1).bestFold(), 8);
+        Creasebook book = Sheets.sheet(2, 1);
         book.turn();
         Check.same("turned: FRONT as it goes over", book.bestFold(), 9);
         book.sheet(3, 1);
@@ -612,11 +575,11 @@ public final class PromiseTest {
         Check.same("turned 3 by 1: two FRONTS of the FAR part", book.bestFold(), 11);
         book.sheet(3, 2);
         Check.same("3 by 2: rows leave less", book.bestFold(), 12);
-        Check.same("a ninth FOLD, none of which shows a FRONT", eightFolds().bestFold(), 12);
+        Check.same("a ninth FOLD, none of which shows a FRONT", Sheets.eightFolds().bestFold(), 12);
     }
 
     private static void promise20Bring() {
-        Creasebook book = sheet(4, 1);
+        Creasebook book = Sheets.sheet(4, 1);
         Check.same("1 upon 0", book.bring(0, 1), 8);
         Check.same("0 upon 1", book.bring(1, 0), 9);
         Check.same("3 upon 0", book.bring(0, 3), 16);
@@ -631,36 +594,36 @@ public final class PromiseTest {
         Check.same("1 upon 0", book.bring(0, 1), 9);
         Check.same("3 upon 1", book.bring(1, 3), NONE);
         Check.same("2 upon 3", book.bring(3, 2), 10);
-        Check.same("of rows", sheet(1, 2).bring(0, 1), 12);
-        Creasebook tall = sheet(2, 8);
+        Check.same("of rows", Sheets.sheet(1, 2).bring(0, 1), 12);
+        Creasebook tall = Sheets.sheet(2, 8);
         tall.fold(0, 1, NEAR, OVER);
         Check.same("by the greatest CODE that there is", tall.bring(12, 14), 63);
-        Check.same("by the least one", sheet(2, 1).bring(0, 1), 8);
+        Check.same("by the least one", Sheets.sheet(2, 1).bring(0, 1), 8);
         int[][] wrong = {{-1, 0}, {0, -1}, {4, 0}, {0, 4}, {4, 4}, {-1, -1}, {LOW, 0}, {0, TOP}};
         for (int[] cells : wrong) {
             Check.refuses("bring(" + cells[0] + ", " + cells[1] + ")", book, INDEX,
                     () -> book.bring(cells[0], cells[1]));
         }
         Check.refuses("bring(2, 2)", book, WRONG, () -> book.bring(2, 2));
-        Creasebook all = eightFolds();
+        Creasebook all = Sheets.eightFolds();
         Check.same("by a ninth FOLD", all.bring(all.ofPlace(0, 0, 1), all.ofPlace(0, 1, 1)), 15);
     }
 
     private static void promise21Fewest() {
         int[] due = {0, 1, 2, 2, 3, 3, 3, 3};
         for (int length = 1; length <= 8; length++) {
-            Check.same("fewest() of columns", sheet(length, 1).fewest(), due[length - 1]);
-            Check.same("fewest() of rows", sheet(1, length).fewest(), due[length - 1]);
+            Check.same("fewest() of columns", Sheets.sheet(length, 1).fewest(), due[length - 1]);
+            Check.same("fewest() of rows", Sheets.sheet(1, length).fewest(), due[length - 1]);
         }
-        Check.same("fewest() of 5 by 6", sheet(5, 6).fewest(), 6);
-        Creasebook book = sheet(8, 4);
+        Check.same("fewest() of 5 by 6", Sheets.sheet(5, 6).fewest(), 6);
+        Creasebook book = Sheets.sheet(8, 4);
         int[][] halves = {{0, 4}, {0, 2}, {0, 1}, {1, 2}, {1, 1}};
         for (int done = 0; done < halves.length; done++) {
             Check.same("fewest() of 8 by 4, folded", book.fewest(), 5 - done);
             book.fold(halves[done][0], halves[done][1], NEAR, OVER);
         }
         Check.same("fewest() of one PLACE", book.fewest(), 0);
-        Check.same("fewest() as if there could be more than 8", eightFolds().fewest(), 1);
+        Check.same("fewest() as if there could be more than 8", Sheets.eightFolds().fewest(), 1);
     }
 
     private static void promise22Digest() {
@@ -681,7 +644,7 @@ public final class PromiseTest {
     }
 
     private static void promise22Two() {
-        Creasebook book = sheet(2, 1);
+        Creasebook book = Sheets.sheet(2, 1);
         book.ink(1, 0);
         int[] many = {2, 1, 2, 1, 0, 0, 0, 0, 1, 0, 0, 1, 2, 0, 0, 0};
         int[] cell0 = {0, 0, 0, 1, 0, 0, 0, 0, 0, 0, -1, -1};
